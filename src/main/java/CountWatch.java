@@ -669,7 +669,7 @@ public final class CountWatch {
 
         int seasonDigit(int ofDay) {
             int place = seasonLength > 0 ? ofDay % seasonLength : 0;
-            return within(place, 0, MOST_SEASON - 1) ? season[place] : 0;
+            return place >= 0 && place < MOST_SEASON ? season[place] : 0;
         }
 
         int expectationOn(int ofDay) {
@@ -682,7 +682,7 @@ public final class CountWatch {
 
         /** Counts a number; returns the kind of the alarm, 0 if there is none. */
         int addCount(int v) {
-            int e = expectation();
+            int e = expectationOn(day);
             up = Math.max(0, up + v - e - slack);
             down = Math.max(0, down + e - v - slack);
             int alarm = (up >= bound ? 1 : 0) + (down >= bound ? 2 : 0);

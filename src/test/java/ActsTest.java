@@ -62,6 +62,12 @@ public final class ActsTest {
             Due.due("expectation on day " + day, x.series(0, 12), due[day]);
             Due.due("gap of day " + day, x.gap(0), day + 1);
         }
+        x = Due.watching("Wc059990010829.");
+        int[] five = {101, 100, 108, 102, 109, 101, 100};
+        for (int day = 0; day < five.length; day++) {
+            Due.due("expectation on day " + day + " of five digits", x.series(0, 12), five[day]);
+            x.gap(0);
+        }
         Due.due("lowest expectation", Due.watching("Wc00001000.").series(0, 12), 95);
         Due.due("highest expectation", Due.watching("Wc99001009.").series(0, 12), 203);
     }

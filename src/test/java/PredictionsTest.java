@@ -39,6 +39,7 @@ public final class PredictionsTest {
         Due.due("level ahead", x.ahead(5, 9, 1, 11), 80);
         Due.due("level ahead", x.ahead(2, 13, 1, 11), 80 + 32 + 16);
         Due.due("ahead(60, 99, 1, 5)", x.ahead(60, 99, 1, 5), 60);
+        Due.due("ahead(1, 0, 0, 9)", x.ahead(1, 0, 0, 9), 2);
         int[][] wrong = {{-1, 0, 5}, {61, 0, 5}, {1, -1, 5}, {1, 100, 5}, {1, 0, 4}, {1, 0, 14}, {1, 0, -1}};
         for (int[] w : wrong) {
             Due.due("ahead(" + w[0] + ", " + w[1] + ", 0, " + w[2] + ")", x.ahead(w[0], w[1], 0, w[2]), OUTSIDE);
@@ -51,6 +52,8 @@ public final class PredictionsTest {
         CountWatch x = Due.watching("W" + PLAIN + "c05060005.c05061005.");
         Due.due("at once", x.rings(0, 10), 1);
         Due.due("in two", x.rings(0, 9), 2);
+        Due.due("at once by the lowest number", x.rings(0, 0), 1);
+        Due.due("at once by the highest number", x.rings(0, 99), 1);
         Due.due("in four", x.rings(0, 7), 4);
         Due.due("in four, below", x.rings(0, 3), 4);
         Due.due("never above", x.rings(0, 6), NONE);
@@ -80,6 +83,8 @@ public final class PredictionsTest {
         // 94 above needs two counts
         Due.due("in two", x.least(1, 2), 56);
         Due.due("in 30", x.least(1, 30), 0);
+        // base 0, f = 5, slack 0, bound 99: only 99 reaches it at once
+        Due.due("the highest number", Due.watching("Wc00099005.").least(0, 1), 99);
         Due.due("least(0, 0)", x.least(0, 0), OUTSIDE);
         Due.due("least(0, 31)", x.least(0, 31), OUTSIDE);
         Due.due("least(3, 31)", x.least(3, 31), UNKNOWN);
@@ -185,6 +190,14 @@ public final class PredictionsTest {
         // The past holds the days 2 to 13.
         Due.due("the digits of the days", x.would(0, 0, 4), 10);
         Due.due("the digits of the days", x.would(0, 0, 5), NONE);
+        // Two things, and a past that begins with day 0: the same season.
+        x = Due.watching("Wc0599900591.");
+        x.tell(0, 5);
+        x.tell(0, 9);
+        Due.due("a short past", x.would(0, 0, 1), NONE);
+        x.tell(0, 4);
+        Due.due("a short past", x.would(0, 0, 3), 2);
+        Due.due("a short past", x.would(0, 0, 4), NONE);
         // With a rate, the level as it is now holds for all: 80, then 96 (of 7, half of 32), so that 6 are expected.
         x = Due.watching("Wc05999105.");
         x.tell(0, 5);

@@ -89,6 +89,9 @@ public final class TextTest {
         fault("Wc051014112345", 14);
         fault("Wc051014112345.", CountWatch.NONE);
         fault("Wc0510141123456", 14);
+        fault("Wc05101411000", 13);
+        fault("Wc05101419999.", CountWatch.NONE);
+        fault("Wc05101410000.", CountWatch.NONE);
         fault("Wc05101411:", 10);
         fault("Wc05101411/", 10);
         fault("Wc05101411.W", 11);
@@ -151,8 +154,26 @@ public final class TextTest {
         Due.due("observations stay", x.count(5), 1);
         Due.due("the text stays", x.count(0), 11);
         Due.due("the seed stays", x.seed(0), 77);
-        x.tell(0, 8);
+        readingOnceMore(x);
+    }
+
+    /** Nothing of the state is left. */
+    private static void readingOnceMore(CountWatch x) {
+        Due.rewrite(x, "Wc07104105.");
+        x.watch();
+        int[] fresh = new int[14];
+        for (int what = 0; what < fresh.length; what++) {
+            fresh[what] = x.series(0, what);
+        }
+        Due.tellAll(x, 0, 7, 9, 99, 0, 5);
+        Due.due("an alarm of before", x.series(0, 8), 2);
+        Due.due("a sum of before", x.series(0, 7), 1);
         Due.due("watch() once more", x.watch(), 1);
-        Due.due("day after watch() once more", x.series(0, 5), 0);
+        for (int what = 0; what < fresh.length; what++) {
+            Due.due("fresh: series(0, " + what + ")", x.series(0, what), fresh[what]);
+        }
+        x.tell(0, 10);
+        x.watch();
+        Due.due("up is fresh", x.series(0, 6), 0);
     }
 }
