@@ -8,7 +8,7 @@ public final class CountWatch {
     private static final int MOST_AHEAD = 60;
     private static final int MOST_LEAST = 30;
     private static final int MOST_DOINGS = 4;
-    private static final int MOST_SIGHTS = 6;
+    private static final int MOST_OBSERVATIONS = 6;
     private static final int MOST_UNKNOWN = 31;
     private static final int MOST_DAYS = 6;
     private static final int MOST_QUORUM = 99;
@@ -22,8 +22,8 @@ public final class CountWatch {
     private final Acts acts = new Acts();
     private final Charts[] slots = new Charts[SLOTS];
     private final boolean[] kept = new boolean[SLOTS];
-    private final Sight[] sights = new Sight[MOST_SIGHTS];
-    private int sightCount = 0;
+    private final Observation[] observations = new Observation[MOST_OBSERVATIONS];
+    private int observationCount = 0;
     private long seedNow = 0;
 
     // Predictions run on these two, so that no call makes an object.
@@ -35,8 +35,8 @@ public final class CountWatch {
         for (int i = 0; i < SLOTS; i++) {
             slots[i] = new Charts();
         }
-        for (int i = 0; i < MOST_SIGHTS; i++) {
-            sights[i] = new Sight();
+        for (int i = 0; i < MOST_OBSERVATIONS; i++) {
+            observations[i] = new Observation();
         }
     }
 
@@ -215,7 +215,7 @@ public final class CountWatch {
         if (!runLength.solve(chart.slack, chart.bound, now.chances)) {
             return NONE;
         }
-        return lowest(runLength.above, runLength.below, upper);
+        return sideInLowestTerms(runLength.above, runLength.below, upper);
     }
 
     public int would(int series, int k, int h) {
@@ -239,12 +239,12 @@ public final class CountWatch {
     }
 
     public int judge(int n, long row) {
-        if (!within(n, 1, MOST_DOINGS) || row < 0 || withoutDoings(row, n) != 0) {
+        if (!within(n, 1, MOST_DOINGS) || row < 0 || withoutLastDoings(row, n) != 0) {
             return OUTSIDE;
         }
         trials.copyFrom(now);
         for (int i = 0; i < n; i++) {
-            int doing = (int) (withoutDoings(row, n - 1 - i) % 10000);
+            int doing = (int) (withoutLastDoings(row, n - 1 - i) % 10000);
             if (!stands(doing)) {
                 return i;
             }
@@ -252,8 +252,7 @@ public final class CountWatch {
         return NONE;
     }
 
-    /** The row without its last doings. */
-    private static long withoutDoings(long row, int doings) {
+    private static long withoutLastDoings(long row, int doings) {
         long rest = row;
         for (int i = 0; i < doings; i++) {
             rest /= 10000;
@@ -261,7 +260,7 @@ public final class CountWatch {
         return rest;
     }
 
-    /** Carries out or checks a doing on the trial copy; false if it is impossible or not true. */
+    /** Statements too are asked of the trial copy: they are about what the doings before them left. */
     private boolean stands(int doing) {
         int value = doing % 100;
         Chart chart = trials.at(doing / 100 % 10);
@@ -300,21 +299,21 @@ public final class CountWatch {
         if (!within(n, 0, 9) || !within(k, 0, 9) || !within(was, 0, 1)) {
             return OUTSIDE;
         }
-        if (sightCount >= MOST_SIGHTS) {
+        if (observationCount >= MOST_OBSERVATIONS) {
             return FULL;
         }
-        Sight sight = sights[sightCount];
-        sight.series = series;
-        sight.n = n;
-        sight.k = k;
-        sight.was = was == 1;
-        sightCount++;
-        return sightCount;
+        Observation observation = observations[observationCount];
+        observation.series = series;
+        observation.n = n;
+        observation.k = k;
+        observation.was = was == 1;
+        observationCount++;
+        return observationCount;
     }
 
     public int unsee() {
-        int before = sightCount;
-        sightCount = 0;
+        int before = observationCount;
+        observationCount = 0;
         return before;
     }
 
@@ -329,20 +328,20 @@ public final class CountWatch {
     }
 
     private boolean agreesWithAll(int v) {
-        for (int i = 0; i < sightCount; i++) {
-            Sight sight = sights[i];
-            Chart chart = now.at(sight.series);
-            if (chart != null && !agrees(sight, chart, v)) {
+        for (int i = 0; i < observationCount; i++) {
+            Observation observation = observations[i];
+            Chart chart = now.at(observation.series);
+            if (chart != null && !agrees(observation, chart, v)) {
                 return false;
             }
         }
         return true;
     }
 
-    private boolean agrees(Sight sight, Chart chart, int v) {
+    private boolean agrees(Observation observation, Chart chart, int v) {
         trial.copyFrom(chart);
-        trial.addCounts(v, sight.n);
-        return (trial.alarms - chart.alarms == sight.k) == sight.was;
+        trial.addCounts(v, observation.n);
+        return (trial.alarms - chart.alarms == observation.k) == observation.was;
     }
 
     // ---- probabilities and simulations
@@ -364,7 +363,7 @@ public final class CountWatch {
                 decisive += factorial(count) * factorial(others - count);
             }
         }
-        return (int) lowest(decisive, factorial(now.size), upper);
+        return (int) sideInLowestTerms(decisive, factorial(now.size), upper);
     }
 
     public int lost(int series, int v, int n, int x, boolean upper) {
@@ -381,7 +380,7 @@ public final class CountWatch {
                 above += weight(n, gaps, x);
             }
         }
-        return (int) lowest(above, weight(n, 0, 0), upper);
+        return (int) sideInLowestTerms(above, weight(n, 0, 0), upper);
     }
 
     private boolean alarmsWithGaps(Chart chart, int v, int n, int gaps) {
@@ -396,7 +395,7 @@ public final class CountWatch {
         return false;
     }
 
-    /** The probability of just these gaps, times 10 to the power of n. */
+    /** The probability is told times 10 to the power of n, as that is a whole number. */
     private static long weight(int n, int gaps, int x) {
         long product = 1;
         for (int day = 0; day < n; day++) {
@@ -464,7 +463,7 @@ public final class CountWatch {
             case 4:
                 return acts.size;
             case 5:
-                return sightCount;
+                return observationCount;
             default:
                 return OUTSIDE;
         }
@@ -492,8 +491,7 @@ public final class CountWatch {
         return product;
     }
 
-    /** A side of the fraction in lowest terms. */
-    private static long lowest(long above, long below, boolean upper) {
+    private static long sideInLowestTerms(long above, long below, boolean upper) {
         long divisor = commonDivisor(above, below);
         long side = upper ? above : below;
         return divisor > 0 ? side / divisor : side;
@@ -511,7 +509,6 @@ public final class CountWatch {
         return greater;
     }
 
-    /** The text from which a watch is read. */
     private static final class Text {
         static final int MOST = 80;
         static final int SHORTEST_SERIES = 10;
@@ -549,7 +546,7 @@ public final class CountWatch {
             return place == 0 ? NONE : size;
         }
 
-        /** Whether a letter may stand at a place of a series, its c being at 0. */
+        /** Places are counted from the c of the series, so that one row of cases serves for all series. */
         static boolean fits(int place, int letter, int before) {
             switch (place) {
                 case 0:
@@ -583,7 +580,7 @@ public final class CountWatch {
             charts.size = series;
         }
 
-        /** Reads the series whose c is at a place; returns the place behind its full stop. */
+        /** Returns the place behind the full stop, as only the reading tells how long a series is. */
         int readSeries(int at, Chart chart) {
             chart.base = 10 * digit(at + 1) + digit(at + 2);
             chart.slack = digit(at + 3);
@@ -610,7 +607,7 @@ public final class CountWatch {
         }
     }
 
-    /** A series: its parameters and its state. */
+    /** A series; its name is another, as series() is a method of the face. */
     private static final class Chart {
         static final int MOST_SEASON = 5;
         static final int MOST_THINGS = 12;
@@ -636,7 +633,6 @@ public final class CountWatch {
         final int[] things = new int[MOST_THINGS];
         int thingCount;
 
-        /** Puts the state to what it is at first. */
         void begin() {
             day = 0;
             up = 0;
@@ -680,7 +676,7 @@ public final class CountWatch {
             return expectationOn(day);
         }
 
-        /** Counts a number; returns the kind of the alarm, 0 if there is none. */
+        /** Returns the kind of the alarm, as the predictions need to know of it at once. */
         int addCount(int v) {
             int e = expectationOn(day);
             up = Math.max(0, up + v - e - slack);
@@ -743,7 +739,7 @@ public final class CountWatch {
             down = 0;
         }
 
-        /** The first place of the past after which a sum is at least h; the level is the present one. */
+        /** All days have the present level, as the past keeps none of its own. */
         int replay(int k, int h) {
             int above = 0;
             int below = 0;
@@ -776,7 +772,7 @@ public final class CountWatch {
             }
         }
 
-        /** A parameter by the number that set() gives it. */
+        /** The numbers are those of set(), which differ from those of series(). */
         int parameter(int what) {
             switch (what) {
                 case 0:
@@ -807,7 +803,7 @@ public final class CountWatch {
             }
         }
 
-        /** A property by the number that series() gives it. */
+        /** The numbers are those of series() and ahead(). */
         int property(int what) {
             switch (what) {
                 case 0:
@@ -842,7 +838,7 @@ public final class CountWatch {
         }
     }
 
-    /** All series and the chances. */
+    /** All that an act, a slot or a trial needs a copy of: the series and the chances. */
     private static final class Charts {
         final Chart[] rows = new Chart[MOST_SERIES];
         int size = 0;
@@ -862,7 +858,7 @@ public final class CountWatch {
             }
         }
 
-        /** The series of a number, null if there is none. */
+        /** Null where there is none, so that one look tells and fetches. */
         Chart at(int series) {
             return within(series, 0, size - 1) ? rows[series] : null;
         }
@@ -875,16 +871,15 @@ public final class CountWatch {
             return sum;
         }
 
-        /** The sum of up of the series in a bit set. */
-        int sumOfUps(int set) {
+        int sumOfUps(int setOfSeries) {
             int sum = 0;
             for (int i = 0; i < size; i++) {
-                sum += (set >> i & 1) == 1 ? rows[i].up : 0;
+                sum += (setOfSeries >> i & 1) == 1 ? rows[i].up : 0;
             }
             return sum;
         }
 
-        /** How many series stand before a series in the ranking. */
+        /** Counts those before it: five series need no sorting. */
         int rankOf(int series) {
             int rank = 0;
             for (int i = 0; i < size; i++) {
@@ -906,7 +901,7 @@ public final class CountWatch {
         }
     }
 
-    /** What was before each of the latest acts. */
+    /** A ring of copies from before each act: the oldest one gives way, and to undo is to copy back. */
     private static final class Acts {
         static final int MOST = 14;
 
@@ -937,15 +932,13 @@ public final class CountWatch {
         }
     }
 
-    /** An observation. */
-    private static final class Sight {
+    private static final class Observation {
         int series;
         int n;
         int k;
         boolean was;
     }
 
-    /** The mean number of counts until up reaches the bound, as a fraction. */
     private static final class RunLength {
         static final int MOST_STATES = 6;
         static final int STEPS = 5;
@@ -956,7 +949,7 @@ public final class CountWatch {
         long above = 0;
         long below = 1;
 
-        /** Finds the fraction; false if up may stay below the bound for ever. */
+        /** False if up may stay below the bound for ever: the equations have no answer then. */
         boolean solve(int slack, int bound, int chances) {
             if (!within(bound, 1, MOST_STATES) || !climbs(slack, chances)) {
                 return false;
@@ -977,7 +970,7 @@ public final class CountWatch {
             return false;
         }
 
-        /** The chance, in tenths, of a step, the steps being counted from 0. */
+        /** In tenths, as the equations are kept in whole numbers; the steps are counted from 0. */
         static int chance(int chances, int step) {
             int rest = chances;
             for (int i = step; i < STEPS - 1; i++) {

@@ -3,7 +3,26 @@ final class Due {
     private static int wrong = 0;
     private static int checked = 0;
 
+    // A call that fails to end is a failure too; without this it would be told by nobody.
+    private static final int MOST_SECONDS = 300;
+
+    static {
+        Thread watchdog = new Thread(Due::failWhenTooLate);
+        watchdog.setDaemon(true);
+        watchdog.start();
+    }
+
     private Due() {
+    }
+
+    private static void failWhenTooLate() {
+        try {
+            Thread.sleep(1000L * MOST_SECONDS);
+        } catch (InterruptedException e) {
+            return;
+        }
+        System.out.println("no end after " + MOST_SECONDS + " seconds");
+        Runtime.getRuntime().halt(1);
     }
 
     static void due(String call, long got, long want) {

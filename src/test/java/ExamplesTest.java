@@ -1,10 +1,11 @@
-/** The four examples at the end of the document's description. */
+/** The four examples at the end of the document's description, and the one of README.md. */
 public final class ExamplesTest {
     public static void main(String[] args) {
         aboveExpectation();
         alarmThatRestarts();
         incompleteText();
         withoutSeries();
+        ofTheReadme();
         Due.end("ExamplesTest");
     }
 
@@ -61,5 +62,17 @@ public final class ExamplesTest {
         Due.due("count(3)", x.count(3), 2620);
         Due.due("chances(20000)", x.chances(20000), -2);
         Due.due("share(0, 1, true)", x.share(0, 1, true), -1);
+    }
+
+    private static void ofTheReadme() {
+        CountWatch x = Due.written("Wc05104105.");
+        Due.due("watch()", x.watch(), 1);
+        Due.due("tell(0, 9)", x.tell(0, 9), 0);
+        Due.due("series(0, 6)", x.series(0, 6), 3);
+        Due.due("rings(0, 9)", x.rings(0, 9), 1);
+        Due.fraction("lost(0, 9, 2, 5)", x.lost(0, 9, 2, 5, true), x.lost(0, 9, 2, 5, false), 3, 4);
+        Due.due("tell(0, 9) again", x.tell(0, 9), 1);
+        Due.due("undo()", x.undo(), 1);
+        Due.due("tell(0, 100)", x.tell(0, 100), -2);
     }
 }
